@@ -286,19 +286,19 @@ public final class TypeGuard {
 
         private static final Word[] ALL = values();
 
-        private final long name;
+        private final long code;
 
         Word(String letters) {
             long packed = 0;
             for (int i = 0; i < letters.length(); i++) {
                 packed = packed << 7 | letters.charAt(i);
             }
-            name = packed;
+            code = packed;
         }
 
         static Word of(long name) {
             for (Word word : ALL) {
-                if (word.name == name) {
+                if (word.code == name) {
                     return word;
                 }
             }
@@ -371,7 +371,7 @@ public final class TypeGuard {
         }
 
         boolean skipWord(Word expected) {
-            boolean found = names[at] == expected.name;
+            boolean found = names[at] == expected.code;
             if (found) {
                 advance();
             }
