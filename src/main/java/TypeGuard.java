@@ -468,9 +468,7 @@ public final class TypeGuard {
         private int removedTypes;
         private int removedAttributes;
 
-        void clear() {
-            inverted = false;
-            everything = false;
+        void clearNames() {
             addedTypes = 0;
             addedAttributes = 0;
             removedTypes = 0;
@@ -503,21 +501,17 @@ public final class TypeGuard {
         private final int[] permissions = new int[CLASSES_MAX];
         private int movedTo = NONE;
 
-        void begin(Word newWord, int newPlace) {
+        void begin(Word newWord, int newPlace, int newCondition, boolean isBehindElse) {
             word = newWord;
             place = newPlace;
-            condition = NONE;
-            behindElse = false;
-            source.clear();
-            target.clear();
-            self = false;
-            sourceTypes = 0;
-            targetTypes = 0;
+            condition = newCondition;
+            behindElse = isBehindElse;
+            source.clearNames();
+            target.clearNames();
             classes = 0;
             for (int c = 0; c < CLASSES_MAX; c++) {
                 permissions[c] = 0;
             }
-            movedTo = NONE;
         }
 
         int targetsOf(int type) {
@@ -700,7 +694,6 @@ public final class TypeGuard {
             faultKind = NO_FAULT;
             faultPlace = NONE;
             condition = NONE;
-            behindElse = false;
             draft.clear();
             tokens.scan(text, length);
             for (int i = 0; i <= TEXT_MAX && !isDone(); i++) {
@@ -744,7 +737,7 @@ public final class TypeGuard {
         private boolean readStatement() {
             Word word = tokens.word();
             if (word == Word.ALLOW || word == Word.AUDIT || word == Word.HUSH) {
-                return readAccessRule(word);
+                return readRule(word);
             }
             if (condition != NONE) {
                 return readEndOfBlock();
@@ -759,9 +752,8 @@ public final class TypeGuard {
                 case BOOL:
                     return readBool();
                 case NEVER:
-                    return readAccessRule(word);
                 case MOVE:
-                    return readMove();
+                    return readRule(word);
                 case IF:
                     return readIf();
                 default:
@@ -840,49 +832,36 @@ public final class TypeGuard {
                 return expect('{');
             }
             condition = NONE;
-            behindElse = false;
             return expect(';');
         }
 
-        private boolean readAccessRule(Word word) {
+        private boolean readRule(Word word) {
             if (draft.ruleCount >= RULES_MAX) {
                 return refuse(TOO_MANY);
             }
-            Rule rule = beginRule(word);
-            return readTypes(rule.source) && readTarget(rule) && expect(':')
-                    && readClasses(rule) && readPermissions(rule) && expect(';');
-        }
-
-        private boolean readMove() {
-            if (draft.ruleCount >= RULES_MAX) {
-                return refuse(TOO_MANY);
-            }
-            Rule rule = beginRule(Word.MOVE);
-            if (!readTypes(rule.source) || !readTarget(rule) || !expect(':')) {
+            Rule rule = draft.rules[draft.ruleCount];
+            draft.ruleCount++;
+            rule.begin(word, tokens.place(), condition, behindElse);
+            tokens.advance();
+            if (!readTypes(rule.source)) {
                 return false;
             }
+            rule.self = tokens.skipWord(Word.SELF);
+            if (!rule.self && !readTypes(rule.target) || !expect(':')) {
+                return false;
+            }
+            boolean sound = word == Word.MOVE ? readMove(rule) : readClasses(rule) && readPermissions(rule);
+            return sound && expect(';');
+        }
+
+        private boolean readMove(Rule rule) {
             int c = numberHere(draft.classes);
             if (c == NONE) {
                 return false;
             }
             rule.classes = 1 << c;
             rule.movedTo = numberHere(draft.types);
-            return rule.movedTo != NONE && expect(';');
-        }
-
-        private Rule beginRule(Word word) {
-            Rule rule = draft.rules[draft.ruleCount];
-            draft.ruleCount++;
-            rule.begin(word, tokens.place());
-            rule.condition = condition;
-            rule.behindElse = behindElse;
-            tokens.advance();
-            return rule;
-        }
-
-        private boolean readTarget(Rule rule) {
-            rule.self = tokens.skipWord(Word.SELF);
-            return rule.self || readTypes(rule.target);
+            return rule.movedTo != NONE;
         }
 
         private boolean readTypes(TypeSet set) {

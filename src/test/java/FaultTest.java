@@ -36,6 +36,10 @@ public final class FaultTest {
         due(1, "type ^abcdefghij;");
         due(1, "type ^abcdefghijklmnopqrstuvwxyz;");
         due(1, "^battribute a;");
+        due(1, "^attributes a;");
+        due(1, "type abcdefghi;class f{x};allow ^abcdefghij *:f x;");
+        due(1, "bool abcdefghi true;if ^abcdefghij{};");
+        due(1, "class f{abcdefghi};type a;allow a a:f ^abcdefghij;");
         due(1, "^aaaaaaaaaaaaaaaaaatype a;");
         due(1, "class f{^abcdefghij};");
         due(1, "bool q ^trueeeeeee;");

@@ -6,6 +6,7 @@ public final class LoadTest {
         checkThatAFaultKeepsThePolicy(check);
         checkSoundTexts(check);
         checkFullPolicy(check);
+        checkThatNothingIsLeftOver(check);
         check.end();
     }
 
@@ -68,6 +69,60 @@ public final class LoadTest {
         }
     }
 
+    /** Whatever an object has read before, a text means what it means to a new object. */
+    private static void checkThatNothingIsLeftOver(Check check) {
+        String head = "class f{x y};class g{x};class h{x};class i{x};attribute d;attribute e;type a,d;type b,e;bool q true;";
+        String[] texts = {
+            head + "allow a a:{f g h i} x;",
+            head + "allow ~a ~*:f ~x;hush {d e -a} {e -e}:f *;",
+            head + "allow {a -e} {b -d}:f y;",
+            head + "allow {d e -a -b} {-b e d}:f *;",
+            head + "if q{allow a self:f y;}else{audit * b:f x;};",
+            head + "if q{}else{hush ~d ~self",
+            head + "if q{hush * *:{f i} x;",
+            head + "move a b:f b;move b self:g a;allow b b:g x;",
+            head + "never d e:f *;allow e d:f *;audit d self:f *;",
+            "type c;type a;class g{y z x};allow c a:g x;",
+            "type a;type a;",
+            "",
+        };
+        for (String before : texts) {
+            for (String between : texts) {
+                for (String text : texts) {
+                    TypeGuard used = new TypeGuard();
+                    Check.load(used, before);
+                    Check.load(used, between);
+                    // An empty policy is what a fault leaves in force on a new object.
+                    Check.load(used, "");
+                    Check.load(used, text);
+                    TypeGuard fresh = new TypeGuard();
+                    Check.load(fresh, text);
+                    check.same("behind " + before + " and " + between, told(fresh), told(used));
+                }
+            }
+        }
+    }
+
+    /** All that a policy in force says. */
+    private static String told(TypeGuard guard) {
+        StringBuilder all = new StringBuilder();
+        all.append(guard.fault(0)).append(' ').append(guard.fault(1));
+        for (int what = 0; what < 4; what++) {
+            all.append(' ').append(guard.count(what));
+        }
+        for (int s = 0; s < guard.count(0); s++) {
+            for (int t = 0; t < guard.count(0); t++) {
+                for (int c = 0; c < guard.count(1); c++) {
+                    for (int kind = 0; kind < 3; kind++) {
+                        all.append(' ').append(guard.vector(kind, s, t, c));
+                    }
+                    all.append(' ').append(guard.why(s, t, c, 0)).append(' ').append(guard.why(s, t, c, 1));
+                }
+            }
+        }
+        return all.toString();
+    }
+
     private static void checkFullPolicy(Check check) {
         StringBuilder text = new StringBuilder("class f{a b c d e f g h};class g{x};class h{x};class i{x};");
         text.append("attribute p;attribute q;attribute r;attribute s;bool t true;bool u true;bool v true;");
@@ -89,5 +144,9 @@ public final class LoadTest {
         }
         check.same("24 rules", 2, Check.load(guard, rules.append("};").toString()));
         check.same("rules", 24, guard.count(3));
+        String mixed = "type a;class f{x y};" + "never a a:f x;move a a:f a;".repeat(11) + "audit a a:f y;allow a a:f y;";
+        check.same("24 rules of all kinds", 3, Check.load(guard, mixed));
+        check.same("the last", mixed.lastIndexOf("allow"), Check.why(guard, 0, 0, 0, 1));
+        check.same("none", -1, Check.why(guard, 0, 0, 0, 0));
     }
 }

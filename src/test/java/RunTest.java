@@ -34,6 +34,8 @@ public final class RunTest {
         TypeGuard other = guardOf("allow * *:{f g} run;allow c b:f entry;move a b:f c;", 0, 1, 1);
         check.same("no move of that class", 0, Check.run(other, 0, 0));
         check.same("the object keeps its type", 1, other.label(1, 0));
+        TypeGuard first = guardOf("move a b:f c;move b b:f e;allow * *:f *;", 0, 1, 0);
+        check.same("the first rule", 2, Check.run(first, 0, 0));
         TypeGuard self = guardOf("allow * *:f {run entry};move * self:f c;", 1, 1, 0);
         check.same("a move with itself", 2, Check.run(self, 0, 0));
         self.enter(0, 0);

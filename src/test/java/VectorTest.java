@@ -49,6 +49,8 @@ public final class VectorTest {
         dueSet("~{d -e}", 0b1110);
         dueSet("~{a b c h}", 0);
         dueSet("{a -h}", 0b0001);
+        dueSet("{a b c h -d -e}", 0b1000);
+        dueSet("{-d -n a b c h}", 0b1100);
     }
 
     private static void checkSelf() {
