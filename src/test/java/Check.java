@@ -9,21 +9,56 @@ final class Check {
 
     private int checks;
     private int wrong;
+    private String sentence = "";
+
+    /** From here on the answers are due by this sentence of the document. */
+    void sentence(String words) {
+        sentence = words;
+    }
 
     void that(String what, boolean holds) {
         checks++;
         if (!holds) {
-            wrong++;
-            System.out.println("does not hold: " + what);
+            tell("does not hold: " + what);
         }
     }
 
     void same(String what, Object due, Object got) {
         checks++;
         if (!due.equals(got)) {
-            wrong++;
-            System.out.println(what + " answered " + got + ", due is " + due);
+            tell(what + " answered " + got + ", due is " + due);
         }
+    }
+
+    /** A new object takes the text, and has these many types, classes, bools and rules then. */
+    TypeGuard sound(String text, int... counts) {
+        TypeGuard guard = new TypeGuard();
+        same("load of '" + text + "'", 1, load(guard, text));
+        same("kind of '" + text + "'", 0, guard.fault(0));
+        same("place of '" + text + "'", -1, guard.fault(1));
+        for (int what = 0; what < counts.length; what++) {
+            same("count(" + what + ") of '" + text + "'", counts[what], guard.count(what));
+        }
+        return guard;
+    }
+
+    /** A new object refuses the text, whose wrong place is marked by ^. */
+    void faulty(int kind, String marked) {
+        int place = marked.indexOf('^');
+        faulty(kind, marked.substring(0, place) + marked.substring(place + 1), place);
+    }
+
+    void faulty(int kind, String text, int place) {
+        TypeGuard guard = new TypeGuard();
+        same("load of '" + text + "'", ILLEGAL, load(guard, text));
+        same("kind of '" + text + "'", kind, guard.fault(0));
+        same("place of '" + text + "'", place, guard.fault(1));
+        same("number behind '" + text + "'", 0, guard.count(4));
+    }
+
+    private void tell(String what) {
+        wrong++;
+        System.out.println(what + (sentence.isEmpty() ? "" : "  [" + sentence + "]"));
     }
 
     void end() {

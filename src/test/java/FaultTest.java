@@ -19,13 +19,7 @@ public final class FaultTest {
     }
 
     private static void due(int kind, String marked) {
-        int place = marked.indexOf('^');
-        String text = marked.substring(0, place) + marked.substring(place + 1);
-        TypeGuard guard = new TypeGuard();
-        CHECK.same(text, Check.ILLEGAL, Check.load(guard, text));
-        CHECK.same("kind of " + text, kind, guard.fault(0));
-        CHECK.same("place of " + text, place, guard.fault(1));
-        CHECK.same("number behind " + text, 0, guard.count(4));
+        CHECK.faulty(kind, marked);
     }
 
     private static void dueBehindHead(int kind, String marked) {

@@ -27,7 +27,8 @@ public final class LoadTest {
     private static void checkThatAFaultKeepsThePolicy(Check check) {
         TypeGuard guard = Check.loaded("class f{x y};attribute d;type a,d;bool q true;if q{allow d self:f y;};");
         guard.flip(0, false);
-        for (String text : new String[] {"type b;type b;", "bool q true;@", "class f{x};type a;type b;allow a b:f x;never * *:f x;"}) {
+        String[] faulty = {"type b;type b;", "bool q true;@", "class f{x};type a;type b;allow a b:f x;never * *:f x;"};
+        for (String text : faulty) {
             check.same(text, Check.ILLEGAL, Check.load(guard, text));
             check.same("number", 2, guard.count(4));
             check.same("types", 1, guard.count(0));
@@ -62,10 +63,7 @@ public final class LoadTest {
             "type a;class f{x};allow a a:f x;never a a:f ~*;never ~a a:f x;",
         };
         for (String text : texts) {
-            TypeGuard guard = new TypeGuard();
-            check.same(text, 1, Check.load(guard, text));
-            check.same("kind of " + text, 0, guard.fault(0));
-            check.same("place of " + text, -1, guard.fault(1));
+            check.sound(text);
         }
     }
 

@@ -36,11 +36,11 @@ public final class ModelTest {
             String text = random.nextInt(4) == 0 ? spoiled(policy()) : policy();
             write(text);
             same("load() of " + text, Check.outcome(guard::load), Check.outcome(model::load));
-            kinds[guard.fault(0)]++;
+            kinds[model.fault(0)]++;
             same("fault(0) of " + text, guard.fault(0), model.fault(0));
             same("fault(1) of " + text, guard.fault(1), model.fault(1));
             int more = random.nextInt(120);
-            for (int i = 0; i < more && calls < CALLS; i++) {
+            for (int i = 0; i < more && calls < CALLS - 1; i++) {
                 call();
             }
         }
@@ -73,9 +73,10 @@ public final class ModelTest {
         int p = number(6);
         int o = number(10);
         int k = number(4);
-        int s = number(guard.count(0));
-        int t = number(guard.count(0));
-        int c = number(guard.count(1));
+        // The model is asked, since what an object answers behind its 512th call is free.
+        int s = number(model.count(0));
+        int t = number(model.count(0));
+        int c = number(model.count(1));
         switch (below(14)) {
             case 0 -> same("enter", Check.enter(guard, p, t), Check.outcome(() -> {
                 model.enter(p, t);
@@ -86,7 +87,7 @@ public final class ModelTest {
                 return "done";
             }));
             case 3 -> {
-                int b = number(guard.count(2));
+                int b = number(model.count(2));
                 boolean v = random.nextBoolean();
                 same("flip", Check.flip(guard, b, v), Check.outcome(() -> model.flip(b, v)));
             }

@@ -64,7 +64,8 @@ public final class VectorTest {
     }
 
     private static void checkLateMembers() {
-        TypeGuard guard = Check.loaded("class f{x};attribute d;type a;allow a d:f x;audit a *:f x;hush a ~a:f x;type b;type c,d;");
+        TypeGuard guard = Check.loaded("class f{x};attribute d;type a;allow a d:f x;audit a *:f x;hush a ~a:f x;"
+                + "type b;type c,d;");
         CHECK.same("the attribute's later type", 1, Check.vector(guard, 0, 0, 2, 0));
         CHECK.same("a type without it", 0, Check.vector(guard, 0, 0, 1, 0));
         CHECK.same("all types, later ones too", 1, Check.vector(guard, 1, 0, 2, 0));
