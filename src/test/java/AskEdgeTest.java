@@ -11,6 +11,7 @@ public final class AskEdgeTest {
         checkNewTypeOfRun();
         checkWhatRunAsksFor();
         checkMovesWithinNames();
+        checkMovesOfFullAndFormerPolicies();
         checkClassesOfMake();
         checkObjectsThatAreFull();
         checkNamesOfMake();
@@ -202,6 +203,26 @@ public final class AskEdgeTest {
         CHECK.same("no move of the first type to itself", 0, Check.run(guard, 5, 0));
         CHECK.same("made by a move to the last type", 11, Check.make(guard, 5, 9, 8));
         CHECK.same("made without a move", 0, Check.make(guard, 5, 0, 7));
+    }
+
+    private static void checkMovesOfFullAndFormerPolicies() {
+        CHECK.sentence("the type of the move of its type, the object's type and class, if there is one");
+        String head = "class f{x y z};type a;type b;allow * *:f *;";
+        TypeGuard full = guardOf(head + "hush a a:f x;".repeat(23));
+        CHECK.same("24 rules, no move", 0, Check.run(full, 0, 0));
+        CHECK.same("24 rules, no move", 0, Check.make(full, 0, 0, 1));
+        TypeGuard last = guardOf(head + "hush a a:f x;".repeat(22) + "move a a:f b;");
+        CHECK.same("the last of 24 rules", 1, Check.make(last, 0, 0, 1));
+        CHECK.same("the last of 24 rules", 1, Check.run(last, 0, 0));
+        TypeGuard former = guardOf(head + "move a a:f b;");
+        // Twice, so that whatever held the first policy has been used again.
+        CHECK.same("the move is gone", 2, Check.load(former, head));
+        CHECK.same("no move", 0, Check.run(former, 0, 0));
+        CHECK.same("gone still", 3, Check.load(former, head));
+        CHECK.same("no move", 0, Check.run(former, 0, 0));
+        CHECK.same("no move", 0, Check.make(former, 0, 0, 1));
+        CHECK.same("a faulty text's move", Check.ILLEGAL, Check.load(former, head + "move a a:f b;@"));
+        CHECK.same("no move", 0, Check.run(former, 0, 0));
     }
 
     private static void checkClassesOfMake() {
