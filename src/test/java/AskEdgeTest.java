@@ -20,13 +20,6 @@ public final class AskEdgeTest {
         CHECK.end();
     }
 
-    private static TypeGuard guardOf(String text) {
-        TypeGuard guard = Check.loaded(text);
-        guard.enter(0, 0);
-        guard.put(0, 0, 0);
-        return guard;
-    }
-
     private static void dueAsked(String what, TypeGuard guard, int asked, int noted) {
         CHECK.same("asked for by " + what, asked, guard.cache(0) + guard.cache(1));
         CHECK.same("noted by " + what, noted, guard.cache(4));
@@ -40,7 +33,7 @@ public final class AskEdgeTest {
             for (int k = 0; k < many; k++) {
                 perms.append(names.charAt(k)).append(' ');
             }
-            TypeGuard guard = guardOf("class f{" + perms + "};type t;allow t t:f *;hush t t:f *;");
+            TypeGuard guard = Check.labelled("class f{" + perms + "};type t;allow t t:f *;hush t t:f *;");
             for (int k = 0; k < 8; k++) {
                 CHECK.same("permission " + k + " of " + many, k < many, Check.ask(guard, 0, 0, k));
             }
@@ -113,7 +106,7 @@ public final class AskEdgeTest {
             CHECK.same("ask again", true, Check.ask(guard, 0, 0, 0));
             dueAsked("the call that was not", guard, 2, 0);
         }
-        TypeGuard bare = guardOf(both);
+        TypeGuard bare = Check.labelled(both);
         CHECK.same("a process without a type", Check.NO_SUCH, Check.ask(bare, 1, 0, 0));
         CHECK.same("an object without a type", Check.NO_SUCH, Check.ask(bare, 0, 1, 0));
         dueAsked("refused calls", bare, 0, 0);
@@ -121,42 +114,37 @@ public final class AskEdgeTest {
 
     private static void checkClassesOfRun() {
         CHECK.sentence("run: It asks for permission 0 first .. permission 1 is asked for");
-        TypeGuard one = guardOf("class f{x};type a;type b;allow * *:f *;");
+        TypeGuard one = Check.labelled("class f{x};type a;type b;allow * *:f *;");
         CHECK.same("a class of one permission, no move", 0, Check.run(one, 0, 0));
-        TypeGuard moving = guardOf("class f{x};type a;type b;allow * *:f *;move a a:f b;");
+        TypeGuard moving = Check.labelled("class f{x};type a;type b;allow * *:f *;move a a:f b;");
         CHECK.same("a class of one permission, a move", Check.UNSUPPORTED, Check.run(moving, 0, 0));
         CHECK.same("the type stays", 0, moving.label(0, 0));
         dueAsked("it", moving, 2, 1);
-        CHECK.same("permission 1 was not there", "1 0 0 1 0", noted(moving, 0));
-        TypeGuard two = guardOf("class f{x y};type a;type b;allow * *:f *;move a a:f b;");
+        CHECK.same("permission 1 was not there", "1 0 0 1 0", Check.noted(moving, 0));
+        TypeGuard two = Check.labelled("class f{x y};type a;type b;allow * *:f *;move a a:f b;");
         CHECK.same("a class of two permissions, a move", 1, Check.run(two, 0, 0));
         dueAsked("it", two, 2, 0);
-    }
-
-    private static String noted(TypeGuard guard, int i) {
-        return guard.note(i, 0) + " " + guard.note(i, 1) + " " + guard.note(i, 2) + " " + guard.note(i, 3) + " "
-                + guard.note(i, 4);
     }
 
     private static void checkNewTypeOfRun() {
         CHECK.sentence("if that is another type, permission 1 is asked for, of the new type to the object's");
         String head = "class f{x y};type a;type b;type c;";
-        TypeGuard same = guardOf(head + "allow a a:f x;move a a:f a;");
+        TypeGuard same = Check.labelled(head + "allow a a:f x;move a a:f a;");
         CHECK.same("a move to the same type", 0, Check.run(same, 0, 0));
         dueAsked("it", same, 1, 0);
-        TypeGuard old = guardOf(head + "allow a a:f {x y};move a a:f b;");
+        TypeGuard old = Check.labelled(head + "allow a a:f {x y};move a a:f b;");
         CHECK.same("the old type has permission 1", Check.UNSUPPORTED, Check.run(old, 0, 0));
         CHECK.same("the type stays", 0, old.label(0, 0));
-        TypeGuard other = guardOf(head + "allow a a:f x;allow b {b c}:f y;move a a:f b;");
+        TypeGuard other = Check.labelled(head + "allow a a:f x;allow b {b c}:f y;move a a:f b;");
         CHECK.same("the new type has it to others", Check.UNSUPPORTED, Check.run(other, 0, 0));
-        TypeGuard right = guardOf(head + "allow a a:f x;allow b a:f y;move a a:f b;");
+        TypeGuard right = Check.labelled(head + "allow a a:f x;allow b a:f y;move a a:f b;");
         CHECK.same("the new type has it to the object's", 1, Check.run(right, 0, 0));
         CHECK.same("the type then", 1, right.label(0, 0));
         CHECK.same("the object keeps its type", 0, right.label(1, 0));
         CHECK.same("the new type may not run it", Check.UNSUPPORTED, Check.run(right, 0, 0));
         CHECK.same("the type stays", 1, right.label(0, 0));
         dueAsked("both", right, 3, 1);
-        TypeGuard apart = guardOf(head + "allow * *:f *;move a b:f c;move b a:f c;");
+        TypeGuard apart = Check.labelled(head + "allow * *:f *;move a b:f c;move b a:f c;");
         CHECK.same("no move of these", 0, Check.run(apart, 0, 0));
         dueAsked("it", apart, 1, 0);
     }
@@ -164,26 +152,26 @@ public final class AskEdgeTest {
     private static void checkWhatRunAsksFor() {
         CHECK.sentence("one of these is not allowed (what was asked for was asked for; the process keeps its type)");
         String head = "class f{x y};type a;type b;move a a:f b;";
-        TypeGuard first = guardOf(head + "allow b a:f *;");
+        TypeGuard first = Check.labelled(head + "allow b a:f *;");
         CHECK.same("permission 0 is not allowed", Check.UNSUPPORTED, Check.run(first, 0, 0));
         dueAsked("it", first, 1, 1);
-        CHECK.same("note", "0 0 0 0 0", noted(first, 0));
+        CHECK.same("note", "0 0 0 0 0", Check.noted(first, 0));
         CHECK.same("entries", 1, first.cache(2));
         CHECK.same("the type stays", 0, first.label(0, 0));
-        TypeGuard second = guardOf(head + "allow a a:f *;audit a a:f *;");
+        TypeGuard second = Check.labelled(head + "allow a a:f *;audit a a:f *;");
         CHECK.same("permission 1 is not allowed", Check.UNSUPPORTED, Check.run(second, 0, 0));
         dueAsked("it", second, 2, 2);
-        CHECK.same("the later note", "1 0 0 1 0", noted(second, 0));
-        CHECK.same("the earlier note", "0 0 0 0 1", noted(second, 1));
+        CHECK.same("the later note", "1 0 0 1 0", Check.noted(second, 0));
+        CHECK.same("the earlier note", "0 0 0 0 1", Check.noted(second, 1));
         CHECK.same("entries", 2, second.cache(2));
         CHECK.same("the type stays", 0, second.label(0, 0));
-        TypeGuard hushed = guardOf(head + "allow a a:f *;hush b a:f y;");
+        TypeGuard hushed = Check.labelled(head + "allow a a:f *;hush b a:f y;");
         CHECK.same("permission 1 is not allowed, and hushed", Check.UNSUPPORTED, Check.run(hushed, 0, 0));
         dueAsked("it", hushed, 2, 0);
-        TypeGuard both = guardOf(head + "allow * *:f *;audit b a:f y;");
+        TypeGuard both = Check.labelled(head + "allow * *:f *;audit b a:f y;");
         CHECK.same("both are allowed", 1, Check.run(both, 0, 0));
         dueAsked("it", both, 2, 1);
-        CHECK.same("note", "1 0 0 1 1", noted(both, 0));
+        CHECK.same("note", "1 0 0 1 1", Check.noted(both, 0));
     }
 
     private static void checkMovesWithinNames() {
@@ -208,13 +196,13 @@ public final class AskEdgeTest {
     private static void checkMovesOfFullAndFormerPolicies() {
         CHECK.sentence("the type of the move of its type, the object's type and class, if there is one");
         String head = "class f{x y z};type a;type b;allow * *:f *;";
-        TypeGuard full = guardOf(head + "hush a a:f x;".repeat(23));
+        TypeGuard full = Check.labelled(head + "hush a a:f x;".repeat(23));
         CHECK.same("24 rules, no move", 0, Check.run(full, 0, 0));
         CHECK.same("24 rules, no move", 0, Check.make(full, 0, 0, 1));
-        TypeGuard last = guardOf(head + "hush a a:f x;".repeat(22) + "move a a:f b;");
+        TypeGuard last = Check.labelled(head + "hush a a:f x;".repeat(22) + "move a a:f b;");
         CHECK.same("the last of 24 rules", 1, Check.make(last, 0, 0, 1));
         CHECK.same("the last of 24 rules", 1, Check.run(last, 0, 0));
-        TypeGuard former = guardOf(head + "move a a:f b;");
+        TypeGuard former = Check.labelled(head + "move a a:f b;");
         // Twice, so that whatever held the first policy has been used again.
         CHECK.same("the move is gone", 2, Check.load(former, head));
         CHECK.same("no move", 0, Check.run(former, 0, 0));
@@ -227,21 +215,21 @@ public final class AskEdgeTest {
 
     private static void checkClassesOfMake() {
         CHECK.sentence("make: It asks for permission 2 to o");
-        TypeGuard two = guardOf("class f{x y};type a;allow a a:f *;");
+        TypeGuard two = Check.labelled("class f{x y};type a;allow a a:f *;");
         CHECK.same("a class of two permissions", Check.UNSUPPORTED, Check.make(two, 0, 0, 1));
         dueAsked("it", two, 1, 1);
-        CHECK.same("permission 2 was not there", "0 0 0 2 0", noted(two, 0));
+        CHECK.same("permission 2 was not there", "0 0 0 2 0", Check.noted(two, 0));
         CHECK.same("nothing was made", -1, two.label(1, 1));
-        TypeGuard three = guardOf("class f{x y z};type a;allow a a:f z;");
+        TypeGuard three = Check.labelled("class f{x y z};type a;allow a a:f z;");
         CHECK.same("a class of three permissions", 0, Check.make(three, 0, 0, 1));
         dueAsked("it", three, 1, 0);
-        TypeGuard others = guardOf("class f{x y z w};type a;allow a a:f ~z;");
+        TypeGuard others = Check.labelled("class f{x y z w};type a;allow a a:f ~z;");
         CHECK.same("all but permission 2", Check.UNSUPPORTED, Check.make(others, 0, 0, 1));
     }
 
     private static void checkObjectsThatAreFull() {
         CHECK.sentence("UnsupportedOperationException: n has a type (.. nothing is asked then)");
-        TypeGuard guard = guardOf("class f{x y z};type a;allow a a:f *;audit a a:f *;");
+        TypeGuard guard = Check.labelled("class f{x y z};type a;allow a a:f *;audit a a:f *;");
         for (int n = 1; n < 10; n++) {
             CHECK.same("make(0, 0, " + n + ")", 0, Check.make(guard, 0, 0, n));
             CHECK.same("type of " + n, 0, guard.label(1, n));
@@ -257,7 +245,7 @@ public final class AskEdgeTest {
     private static void checkNamesOfMake() {
         CHECK.sentence("(a name that counts as none is no type ..)");
         String first = "class f{x y z};class g{x};type a;type b;allow a a:f *;";
-        TypeGuard guard = guardOf(first);
+        TypeGuard guard = Check.labelled(first);
         guard.put(1, 1, 1);
         Check.load(guard, "class f{x y z};class g{x};type a;allow a a:f *;");
         CHECK.same("the type's name is gone", -1, guard.label(1, 1));
@@ -267,7 +255,7 @@ public final class AskEdgeTest {
         Check.load(guard, first);
         CHECK.same("the old name does not come back", 0, guard.label(1, 1));
         CHECK.same("nor the old class", 0, guard.label(2, 1));
-        TypeGuard other = guardOf(first);
+        TypeGuard other = Check.labelled(first);
         other.put(1, 1, 1);
         Check.load(other, "class f{x y z};type a;type b;allow a a:f *;");
         CHECK.same("the class's name alone is gone", -1, other.label(2, 1));
@@ -283,7 +271,7 @@ public final class AskEdgeTest {
 
     private static void checkOrderOfRefusals() {
         CHECK.sentence("NoSuchElementException as for ask, or there is no object n; UnsupportedOperationException: n has a type");
-        TypeGuard guard = guardOf("class f{x y z};type a;");
+        TypeGuard guard = Check.labelled("class f{x y z};type a;");
         CHECK.same("no type of the process, n has one", Check.NO_SUCH, Check.make(guard, 1, 0, 0));
         CHECK.same("no type of the object, n has one", Check.NO_SUCH, Check.make(guard, 0, 1, 0));
         CHECK.same("no object n, not allowed", Check.NO_SUCH, Check.make(guard, 0, 0, 10));

@@ -108,6 +108,20 @@ final class Check {
         return guard;
     }
 
+    /** A new object with this policy, whose process 0 has type 0, and object 0 type 0 and class 0. */
+    static TypeGuard labelled(String text) {
+        TypeGuard guard = loaded(text);
+        guard.enter(0, 0);
+        guard.put(0, 0, 0);
+        return guard;
+    }
+
+    /** All parts of a note, in their order. */
+    static String noted(TypeGuard guard, int i) {
+        return guard.note(i, 0) + " " + guard.note(i, 1) + " " + guard.note(i, 2) + " " + guard.note(i, 3) + " "
+                + guard.note(i, 4);
+    }
+
     static Object vector(TypeGuard guard, int kind, int source, int target, int c) {
         return outcome(() -> guard.vector(kind, source, target, c));
     }

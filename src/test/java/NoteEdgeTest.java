@@ -13,22 +13,10 @@ public final class NoteEdgeTest {
         CHECK.end();
     }
 
-    private static TypeGuard guardOf(String text) {
-        TypeGuard guard = Check.loaded(text);
-        guard.enter(0, 0);
-        guard.put(0, 0, 0);
-        return guard;
-    }
-
-    private static String noted(TypeGuard guard, int i) {
-        return guard.note(i, 0) + " " + guard.note(i, 1) + " " + guard.note(i, 2) + " " + guard.note(i, 3) + " "
-                + guard.note(i, 4);
-    }
-
     /** Permission k is allowed, audited, hushed if bit 0, 1, 2 of k is set. */
     private static void checkWhatIsNoted() {
         CHECK.sentence("If it is allowed and audit has it, or it is not and hush has it not, that is NOTED");
-        TypeGuard guard = guardOf("class f{a b c d e f g h};type t;allow t t:f {b d f h};audit t t:f {c d g h};"
+        TypeGuard guard = Check.labelled("class f{a b c d e f g h};type t;allow t t:f {b d f h};audit t t:f {c d g h};"
                 + "hush t t:f {e f g h};");
         int total = 0;
         for (int k = 0; k < 8; k++) {
@@ -40,21 +28,21 @@ public final class NoteEdgeTest {
             total += due ? 1 : 0;
             CHECK.same("noted behind " + k, total, guard.cache(4));
             if (due) {
-                CHECK.same("note of " + k, "0 0 0 " + k + " " + (allowed ? 1 : 0), noted(guard, 0));
+                CHECK.same("note of " + k, "0 0 0 " + k + " " + (allowed ? 1 : 0), Check.noted(guard, 0));
             }
         }
         for (int k : new int[] {-1, 8, 31, 32, 33, 35, Integer.MIN_VALUE, Integer.MAX_VALUE}) {
             CHECK.same("permission " + k, false, Check.ask(guard, 0, 0, k));
             total++;
             CHECK.same("noted behind " + k, total, guard.cache(4));
-            CHECK.same("note of " + k, "0 0 0 " + k + " 0", noted(guard, 0));
+            CHECK.same("note of " + k, "0 0 0 " + k + " 0", Check.noted(guard, 0));
         }
     }
 
     private static void checkNone() {
         CHECK.sentence("note: NONE if there is none such");
         TypeGuard fresh = new TypeGuard();
-        TypeGuard guard = guardOf("class f{x};type t;allow t t:f x;");
+        TypeGuard guard = Check.labelled("class f{x};type t;allow t t:f x;");
         guard.ask(0, 0, 0);
         for (int i = -1; i <= 8; i++) {
             for (int what = -1; what <= 5; what++) {
@@ -66,7 +54,7 @@ public final class NoteEdgeTest {
 
     private static void checkLatestEight() {
         CHECK.sentence("the log keeps the latest 8; the i-th of the latest notes (0 the latest)");
-        TypeGuard guard = guardOf("class f{x};type t;");
+        TypeGuard guard = Check.labelled("class f{x};type t;");
         for (int total = 1; total <= 26; total++) {
             guard.ask(0, 0, 100 + total);
             CHECK.same("noted", total, guard.cache(4));
@@ -78,16 +66,16 @@ public final class NoteEdgeTest {
             }
         }
         for (int i = 0; i < 8; i++) {
-            CHECK.same("note " + i, "0 0 0 " + (126 - i) + " 0", noted(guard, i));
+            CHECK.same("note " + i, "0 0 0 " + (126 - i) + " 0", Check.noted(guard, i));
         }
         for (int i : new int[] {-1, -2, -8, 8, 9, 16, 25, 26, 256, Integer.MIN_VALUE, Integer.MIN_VALUE + 7, Integer.MAX_VALUE}) {
-            CHECK.same("note " + i, "-1 -1 -1 -1 -1", noted(guard, i));
+            CHECK.same("note " + i, "-1 -1 -1 -1 -1", Check.noted(guard, i));
         }
     }
 
     private static void checkThatWhatIsNotNotedPushesNothing() {
         CHECK.sentence("that is NOTED: the log keeps the latest 8");
-        TypeGuard guard = guardOf("class f{x y};type t;allow t t:f x;hush t t:f *;");
+        TypeGuard guard = Check.labelled("class f{x y};type t;allow t t:f x;hush t t:f *;");
         for (int k = 20; k < 28; k++) {
             guard.ask(0, 0, k);
         }
@@ -111,14 +99,14 @@ public final class NoteEdgeTest {
         guard.enter(5, 11);
         guard.put(9, 10, 3);
         CHECK.same("the last of each", true, Check.ask(guard, 5, 9, 7));
-        CHECK.same("note", "11 10 3 7 1", noted(guard, 0));
+        CHECK.same("note", "11 10 3 7 1", Check.noted(guard, 0));
         CHECK.same("not allowed", false, Check.ask(guard, 5, 9, 6));
-        CHECK.same("note", "11 10 3 6 0", noted(guard, 0));
-        CHECK.same("note before", "11 10 3 7 1", noted(guard, 1));
+        CHECK.same("note", "11 10 3 6 0", Check.noted(guard, 0));
+        CHECK.same("note before", "11 10 3 7 1", Check.noted(guard, 1));
         guard.enter(0, 0);
         guard.put(0, 0, 0);
         CHECK.same("the first of each", false, Check.ask(guard, 0, 0, 0));
-        CHECK.same("note", "0 0 0 0 0", noted(guard, 0));
+        CHECK.same("note", "0 0 0 0 0", Check.noted(guard, 0));
     }
 
     private static void checkNumbersOfThen() {
@@ -127,22 +115,22 @@ public final class NoteEdgeTest {
         guard.enter(0, 2);
         guard.put(0, 1, 1);
         guard.ask(0, 0, 0);
-        CHECK.same("note", "2 1 1 0 0", noted(guard, 0));
+        CHECK.same("note", "2 1 1 0 0", Check.noted(guard, 0));
         guard.enter(0, 0);
         guard.put(0, 0, 0);
-        CHECK.same("behind new types", "2 1 1 0 0", noted(guard, 0));
+        CHECK.same("behind new types", "2 1 1 0 0", Check.noted(guard, 0));
         Check.load(guard, "class g{x};type c;type b;type a;class f{x};allow a a:f x;");
-        CHECK.same("behind new numbers", "2 1 1 0 0", noted(guard, 0));
+        CHECK.same("behind new numbers", "2 1 1 0 0", Check.noted(guard, 0));
         Check.load(guard, "");
-        CHECK.same("when the names are gone", "2 1 1 0 0", noted(guard, 0));
+        CHECK.same("when the names are gone", "2 1 1 0 0", Check.noted(guard, 0));
         Check.load(guard, ";");
-        CHECK.same("behind a fault", "2 1 1 0 0", noted(guard, 0));
+        CHECK.same("behind a fault", "2 1 1 0 0", Check.noted(guard, 0));
         CHECK.same("noted", 1, guard.cache(4));
     }
 
     private static void checkOtherWhat() {
         CHECK.sentence("note: .. or for another what");
-        TypeGuard guard = guardOf("class f{x};type t;");
+        TypeGuard guard = Check.labelled("class f{x};type t;");
         for (int i = 0; i < 8; i++) {
             guard.ask(0, 0, 0);
         }
